@@ -113,6 +113,7 @@ public final class PromiseTest {
         checks.due("3: struck ones are not struck again", () -> x.kin(3, 2, true), 0);
         checks.due("3: no kin any more", () -> x.kin(2, 3, false), 0);
         checks.due("3: kin of 2", () -> x.ofSource(2, 0), 0);
+        checks.due("3: kin of 3", () -> x.ofSource(3, 0), 0);
         checks.due("3: struck for good", () -> x.ofTable(10, 1), 1);
         checks.due("3: the other one is there", () -> x.ofTable(12, 1), 0);
         checks.due("3: not kin, and never were", () -> x.kin(2, 0, false), 0);
@@ -222,6 +223,7 @@ public final class PromiseTest {
         checks.due("7: the other one is", () -> x.ofPermit(1, 3), 1);
         x.pass(1);
         checks.due("7: one that ended", () -> x.revoke(1), false);
+        checks.due("7: the first one stays revoked", () -> x.ofPermit(0, 3), 0);
         for (int wrong : new int[] {-1, 2, 8, LOWEST, HIGHEST}) {
             checks.due("7: no such permit", () -> x.revoke(wrong), INDEX);
         }
@@ -541,6 +543,11 @@ public final class PromiseTest {
         checks.due("19: no set", () -> x.derived(0, LOWEST), ARGUMENT);
         checks.due("19: no such asker", () -> x.derived(2, 3), INDEX);
         checks.due("19: no such asker before no set", () -> x.derived(-1, -1), INDEX);
+        Degreewall z = withPeople(3, 2);
+        z.ask(0, 3);
+        z.ask(1, 3);
+        checks.due("19: told to two, the first of them", () -> z.derived(0, 3), 3);
+        checks.due("19: told to two, the second of them", () -> z.derived(1, 3), 3);
         Degreewall y = withPeople(6, 1);
         y.ask(0, 0b001111);
         y.ask(0, 0b111100);
@@ -675,6 +682,14 @@ public final class PromiseTest {
         x.pass(2);
         checks.due("25: ended", () -> x.chain(0, 6), -1);
         checks.due("25: the rest", () -> x.chain(6, 4), 2);
+        Degreewall y = withSources(4);
+        y.kin(0, 1, true);
+        y.permit(0, 1, 9);
+        y.permit(2, 3, 9);
+        y.permit(1, 2, 9);
+        checks.due("25: permits of the repair are in the chain, too", () -> y.chain(0, 3), 3);
+        y.pass(1);
+        checks.due("25: a chain leads to them", () -> y.ofSource(3, 2), 7);
         checks.due("25: kin are no chain", () -> {
             x.kin(0, 6, true);
             return x.chain(0, 6);
