@@ -1,14 +1,41 @@
+import java.util.ArrayList;
+import java.util.List;
 import java.util.Random;
+import java.util.function.Function;
 
 /** Random runs with fixed seeds: each answer of the office is that of the model, and so is all that can be asked. */
 public final class ModelTest {
     private static final int RUNS = 240;
     private static final int CALLS = 160;
+    private static final int CALLS_OF_AN_OFFICE = 512;
     private static final String[] KINDS = {
         "source", "kin", "kin", "kin", "bar", "join", "join", "join",
         "permit", "permit", "permit", "revoke", "pass",
         "person", "person", "asker", "least", "ask", "ask", "ask", "ask", "talk", "knock"};
     private static final Checks checks = new Checks();
+
+    /** An office that was led to where another one is; a new one takes its place when its calls are used up. */
+    private static final class Replay {
+        private final List<Function<Degreewall, Object>> steps;
+        private Degreewall office;
+        private int used = CALLS_OF_AN_OFFICE;
+
+        Replay(List<Function<Degreewall, Object>> steps) {
+            this.steps = steps;
+        }
+
+        Degreewall office() {
+            if (used == CALLS_OF_AN_OFFICE) {
+                office = new Degreewall();
+                for (Function<Degreewall, Object> step : steps) {
+                    Checks.answerOf(() -> step.apply(office));
+                }
+                used = steps.size();
+            }
+            used++;
+            return office;
+        }
+    }
 
     public static void main(String[] args) {
         for (int run = 0; run < RUNS && !checks.anyWrong(); run++) {
@@ -22,6 +49,7 @@ public final class ModelTest {
         Degreewall office = new Degreewall();
         Model model = new Model();
         int part = seed % 4;
+        List<Function<Degreewall, Object>> steps = new ArrayList<>();
         StringBuilder calls = new StringBuilder("run " + seed + ":");
         for (int k = 0; k < CALLS && !checks.anyWrong(); k++) {
             String kind = KINDS[from(part, random)];
@@ -34,12 +62,13 @@ public final class ModelTest {
             calls.append(' ').append(kind).append('(').append(a).append(", ").append(b).append(", ").append(c)
                     .append(')');
             int other = b;
+            steps.add(x -> call(x, kind, a, other, c));
             String got = Checks.answerOf(() -> call(office, kind, a, other, c));
             checks.same(calls.toString(), got, Checks.answerOf(() -> call(model, kind, a, other, c)));
             checks.same(calls + " digest", Checks.answerOf(office::digest), Checks.answerOf(model::digest));
             checks.same(calls + " sound", Checks.answerOf(office::isSound), Checks.answerOf(model::isSound));
             if (k % 10 == 9) {
-                compareAll(calls.toString(), office, model, random);
+                compareAll(calls.toString(), new Replay(steps), model, random);
             }
         }
     }
@@ -116,11 +145,11 @@ public final class ModelTest {
         }
     }
 
-    private static void compareAll(String calls, Degreewall x, Model y, Random random) {
+    private static void compareAll(String calls, Replay x, Model y, Random random) {
         for (int i = -1; i <= 20; i++) {
             int a = i;
-            same(calls, "row", a, 0, Checks.answerOf(() -> x.row(a)), Checks.answerOf(() -> y.row(a)));
-            same(calls, "house", a, 0, Checks.answerOf(() -> x.house(a)), Checks.answerOf(() -> y.house(a)));
+            same(calls, "row", a, 0, Checks.answerOf(() -> x.office().row(a)), Checks.answerOf(() -> y.row(a)));
+            same(calls, "house", a, 0, Checks.answerOf(() -> x.office().house(a)), Checks.answerOf(() -> y.house(a)));
             for (int j = -1; j <= 20; j++) {
                 int b = j;
                 compareTwo(calls, x, y, a, b);
@@ -132,28 +161,31 @@ public final class ModelTest {
         }
     }
 
-    private static void compareTwo(String calls, Degreewall x, Model y, int a, int b) {
-        same(calls, "wouldJoin", a, b, Checks.answerOf(() -> x.wouldJoin(a, b)),
+    private static void compareTwo(String calls, Replay x, Model y, int a, int b) {
+        same(calls, "wouldJoin", a, b, Checks.answerOf(() -> x.office().wouldJoin(a, b)),
                 Checks.answerOf(() -> y.wouldJoin(a, b)));
-        same(calls, "ofTable", a, b, Checks.answerOf(() -> x.ofTable(a, b)), Checks.answerOf(() -> y.ofTable(a, b)));
+        same(calls, "ofTable", a, b, Checks.answerOf(() -> x.office().ofTable(a, b)),
+                Checks.answerOf(() -> y.ofTable(a, b)));
         if (a > 8 || b > 8) {
             return;
         }
-        same(calls, "degree", a, b, Checks.answerOf(() -> x.degree(a, b)), Checks.answerOf(() -> y.degree(a, b)));
-        same(calls, "chain", a, b, Checks.answerOf(() -> x.chain(a, b)), Checks.answerOf(() -> y.chain(a, b)));
-        same(calls, "wouldTalk", a, b, Checks.answerOf(() -> x.wouldTalk(a, b)),
+        same(calls, "degree", a, b, Checks.answerOf(() -> x.office().degree(a, b)),
+                Checks.answerOf(() -> y.degree(a, b)));
+        same(calls, "chain", a, b, Checks.answerOf(() -> x.office().chain(a, b)), Checks.answerOf(() -> y.chain(a, b)));
+        same(calls, "wouldTalk", a, b, Checks.answerOf(() -> x.office().wouldTalk(a, b)),
                 Checks.answerOf(() -> y.wouldTalk(a, b)));
-        same(calls, "ofSource", a, b, Checks.answerOf(() -> x.ofSource(a, b)),
+        same(calls, "ofSource", a, b, Checks.answerOf(() -> x.office().ofSource(a, b)),
                 Checks.answerOf(() -> y.ofSource(a, b)));
-        same(calls, "ofPermit", a, b, Checks.answerOf(() -> x.ofPermit(a, b)),
+        same(calls, "ofPermit", a, b, Checks.answerOf(() -> x.office().ofPermit(a, b)),
                 Checks.answerOf(() -> y.ofPermit(a, b)));
-        same(calls, "ofAsker", a, b, Checks.answerOf(() -> x.ofAsker(a, b)), Checks.answerOf(() -> y.ofAsker(a, b)));
+        same(calls, "ofAsker", a, b, Checks.answerOf(() -> x.office().ofAsker(a, b)),
+                Checks.answerOf(() -> y.ofAsker(a, b)));
     }
 
-    private static void compareSums(String calls, Degreewall x, Model y, int asker, int people) {
-        same(calls, "derived", asker, people, Checks.answerOf(() -> x.derived(asker, people)),
+    private static void compareSums(String calls, Replay x, Model y, int asker, int people) {
+        same(calls, "derived", asker, people, Checks.answerOf(() -> x.office().derived(asker, people)),
                 Checks.answerOf(() -> y.derived(asker, people)));
-        same(calls, "wouldGive", asker, people, Checks.answerOf(() -> x.wouldGive(asker, people)),
+        same(calls, "wouldGive", asker, people, Checks.answerOf(() -> x.office().wouldGive(asker, people)),
                 Checks.answerOf(() -> y.wouldGive(asker, people)));
     }
 

@@ -1,10 +1,10 @@
 /** Each promise of the document by its number: ordinary inputs, edges, and wrong inputs. */
 public final class PromiseTest {
-    private static final String INDEX = "throws.IndexOutOfBoundsException";
-    private static final String ARGUMENT = "throws.IllegalArgumentException";
-    private static final String STATE = "throws.IllegalStateException";
-    private static final int LOWEST = Integer.MIN_VALUE;
-    private static final int HIGHEST = Integer.MAX_VALUE;
+    private static final String INDEX = Checks.INDEX;
+    private static final String ARGUMENT = Checks.ARGUMENT;
+    private static final String STATE = Checks.STATE;
+    private static final int LOWEST = Checks.LOWEST;
+    private static final int HIGHEST = Checks.HIGHEST;
     private static final Checks checks = new Checks();
 
     public static void main(String[] args) {
@@ -39,51 +39,12 @@ public final class PromiseTest {
         promise26();
         promise27();
         promise28();
-        aThrownCallChangesNothing();
-        whatIsAskedChangesNothing();
         checks.end();
-    }
-
-    private static Degreewall withSources(int count) {
-        Degreewall office = new Degreewall();
-        for (int k = 0; k < count; k++) {
-            office.source();
-        }
-        return office;
-    }
-
-    /** Sources in a row, each kin of the next. */
-    private static Degreewall withLine(int count) {
-        Degreewall office = withSources(count);
-        for (int k = 1; k < count; k++) {
-            office.kin(k - 1, k, true);
-        }
-        return office;
-    }
-
-    /** People of the values 1, 2, 4 and so on, so that each set has a sum of its own. */
-    private static Degreewall withPeople(int people, int askers) {
-        Degreewall office = new Degreewall();
-        for (int k = 0; k < people; k++) {
-            office.person(1 << k);
-        }
-        for (int k = 0; k < askers; k++) {
-            office.asker();
-        }
-        return office;
-    }
-
-    private static String houseOf(Degreewall office) {
-        StringBuilder text = new StringBuilder();
-        for (int what = 0; what <= 13; what++) {
-            text.append(office.house(what)).append(' ');
-        }
-        return text.toString().trim();
     }
 
     private static void promise1() {
         Degreewall x = new Degreewall();
-        checks.due("1: a new house", () -> houseOf(x), "0 0 0 1 0 0 0 0 0 0 2 0 0 0");
+        checks.due("1: a new house", () -> Offices.houseOf(x), "0 0 0 1 0 0 0 0 0 0 2 0 0 0");
         checks.due("1: a new house is sound", x::isSound, true);
         Degreewall y = new Degreewall();
         y.source();
@@ -101,7 +62,7 @@ public final class PromiseTest {
     }
 
     private static void promise3() {
-        Degreewall x = withSources(4);
+        Degreewall x = Offices.withSources(4);
         checks.due("3: kin(0, 1)", () -> x.kin(0, 1, true), 0);
         checks.due("3: kin of 0", () -> x.ofSource(0, 0), 2);
         checks.due("3: kin of 1", () -> x.ofSource(1, 0), 1);
@@ -127,7 +88,7 @@ public final class PromiseTest {
     }
 
     private static void promise4() {
-        Degreewall x = withLine(7);
+        Degreewall x = Offices.withLine(7);
         checks.due("4: join(0, 2)", () -> x.join(0, 2), 10);
         checks.due("4: join(0, 3)", () -> x.join(0, 3), 11);
         checks.due("4: join(0, 6)", () -> x.join(0, 6), 12);
@@ -148,7 +109,7 @@ public final class PromiseTest {
     }
 
     private static void promise5() {
-        Degreewall x = withLine(4);
+        Degreewall x = Offices.withLine(4);
         checks.due("5: kin", () -> x.join(0, 1), STATE);
         checks.due("5: no kin", () -> x.join(0, 2), 10);
         checks.due("5: its line", () -> x.ofTable(10, 0), 5);
@@ -171,7 +132,7 @@ public final class PromiseTest {
     }
 
     private static void promise5Limits() {
-        Degreewall x = withLine(3);
+        Degreewall x = Offices.withLine(3);
         for (int k = 0; k < 10; k++) {
             int table = 10 + k;
             checks.due("5: join(0, 2)", () -> x.join(0, 2), table);
@@ -186,7 +147,7 @@ public final class PromiseTest {
     }
 
     private static void promise6() {
-        Degreewall x = withSources(3);
+        Degreewall x = Offices.withSources(3);
         checks.due("6: permit(2, 0, 0)", () -> x.permit(2, 0, 0), 0);
         checks.due("6: its last day is today", () -> x.ofPermit(0, 2), 0);
         checks.due("6: in force on it", () -> x.ofPermit(0, 3), 1);
@@ -213,7 +174,7 @@ public final class PromiseTest {
     }
 
     private static void promise7() {
-        Degreewall x = withSources(2);
+        Degreewall x = Offices.withSources(2);
         x.permit(0, 1, 10);
         x.permit(0, 1, 0);
         checks.due("7: revoke(0)", () -> x.revoke(0), true);
@@ -230,7 +191,7 @@ public final class PromiseTest {
     }
 
     private static void promise8() {
-        Degreewall x = withSources(2);
+        Degreewall x = Offices.withSources(2);
         x.permit(0, 1, 3);
         x.permit(0, 1, 3);
         x.permit(0, 1, 4);
@@ -281,7 +242,7 @@ public final class PromiseTest {
     }
 
     private static void promise11() {
-        Degreewall x = withPeople(6, 1);
+        Degreewall x = Offices.withPeople(6, 1);
         checks.due("11: least(5)", () -> x.least(5), 2);
         checks.due("11: least(0)", () -> x.least(0), ARGUMENT);
         checks.due("11: least(6)", () -> x.least(6), ARGUMENT);
@@ -295,7 +256,7 @@ public final class PromiseTest {
     }
 
     private static void promise12() {
-        Degreewall x = withPeople(3, 2);
+        Degreewall x = Offices.withPeople(3, 2);
         checks.due("12: ask(0, 3)", () -> x.ask(0, 3), 3);
         checks.due("12: again", () -> x.ask(0, 3), 3);
         checks.due("12: fewer than least", () -> x.ask(0, 1), -1);
@@ -325,7 +286,7 @@ public final class PromiseTest {
     }
 
     private static void promise12WhatIsDerived() {
-        Degreewall x = withPeople(4, 1);
+        Degreewall x = Offices.withPeople(4, 1);
         checks.due("12: 0+1", () -> x.ask(0, 3), 3);
         checks.due("12: 0+2", () -> x.ask(0, 5), 5);
         checks.due("12: 1+2 would give all three away, by halves", () -> x.ask(0, 6), -1);
@@ -333,7 +294,7 @@ public final class PromiseTest {
         checks.due("12: 2+3 follows already", () -> x.ask(0, 12), 12);
         checks.due("12: 0+3 would give all away", () -> x.ask(0, 9), -1);
 
-        Degreewall y = withPeople(7, 1);
+        Degreewall y = Offices.withPeople(7, 1);
         y.ask(0, 0b0000111);
         y.ask(0, 0b0011001);
         y.ask(0, 0b0101010);
@@ -347,7 +308,7 @@ public final class PromiseTest {
     }
 
     private static void promise13() {
-        Degreewall x = withPeople(4, 4);
+        Degreewall x = Offices.withPeople(4, 4);
         x.ask(0, 3);
         x.ask(1, 7);
         x.ask(2, 12);
@@ -368,14 +329,14 @@ public final class PromiseTest {
         checks.due("13: no such asker", () -> x.talk(-1, 0), INDEX);
         checks.due("13: no such asker, twice", () -> x.talk(4, 4), INDEX);
         checks.due("13: lowest", () -> x.talk(LOWEST, HIGHEST), INDEX);
-        Degreewall y = withPeople(2, 4);
+        Degreewall y = Offices.withPeople(2, 4);
         checks.due("13: a row of talks", () -> y.talk(3, 2) && y.talk(2, 1) && y.talk(1, 0), true);
         checks.due("13: one circle", () -> y.ofAsker(3, 0), 15);
         checks.due("13: two in a circle already", () -> y.talk(0, 3), true);
     }
 
     private static void promise14() {
-        Degreewall x = withLine(7);
+        Degreewall x = Offices.withLine(7);
         checks.due("14: itself", () -> x.degree(3, 3), 0);
         checks.due("14: degree(0, 6)", () -> x.degree(0, 6), 6);
         checks.due("14: degree(6, 0)", () -> x.degree(6, 0), 6);
@@ -388,11 +349,11 @@ public final class PromiseTest {
             checks.due("14: degree(0, wrong)", () -> x.degree(0, wrong), INDEX);
             checks.due("14: degree(wrong, wrong)", () -> x.degree(wrong, wrong), INDEX);
         }
-        checks.due("14: seven only when there are seven", () -> withSources(3).degree(3, 3), INDEX);
+        checks.due("14: seven only when there are seven", () -> Offices.withSources(3).degree(3, 3), INDEX);
     }
 
     private static void promise15() {
-        Degreewall x = withLine(5);
+        Degreewall x = Offices.withLine(5);
         checks.due("15: kin", () -> x.ofSource(1, 0), 0b101);
         checks.due("15: within 1", () -> x.ofSource(1, 1), 0b101);
         x.bar(2);
@@ -422,7 +383,7 @@ public final class PromiseTest {
     }
 
     private static void promise16() {
-        Degreewall x = withSources(3);
+        Degreewall x = Offices.withSources(3);
         x.join(0, 1);
         x.join(10, 2);
         checks.due("16: line", () -> x.ofTable(11, 0), 7);
@@ -440,7 +401,7 @@ public final class PromiseTest {
     }
 
     private static void promise17() {
-        Degreewall x = withSources(4);
+        Degreewall x = Offices.withSources(4);
         x.pass(7);
         x.permit(3, 1, 2);
         checks.due("17: smaller", () -> x.ofPermit(0, 0), 1);
@@ -465,7 +426,7 @@ public final class PromiseTest {
     }
 
     private static void promise17Repair() {
-        Degreewall x = withSources(5);
+        Degreewall x = Offices.withSources(5);
         x.permit(0, 1, 9);
         x.permit(1, 2, 9);
         x.permit(1, 3, 9);
@@ -495,7 +456,7 @@ public final class PromiseTest {
     }
 
     private static void promise18() {
-        Degreewall x = withPeople(5, 3);
+        Degreewall x = Offices.withPeople(5, 3);
         checks.due("18: a circle of one", () -> x.ofAsker(1, 0), 2);
         checks.due("18: rank 0", () -> x.ofAsker(1, 1), 0);
         x.ask(0, 3);
@@ -524,7 +485,7 @@ public final class PromiseTest {
     }
 
     private static void promise19() {
-        Degreewall x = withPeople(4, 2);
+        Degreewall x = Offices.withPeople(4, 2);
         checks.due("19: nobody", () -> x.derived(0, 0), 0);
         checks.due("19: nothing told", () -> x.derived(0, 3), -1);
         x.ask(0, 3);
@@ -543,12 +504,12 @@ public final class PromiseTest {
         checks.due("19: no set", () -> x.derived(0, LOWEST), ARGUMENT);
         checks.due("19: no such asker", () -> x.derived(2, 3), INDEX);
         checks.due("19: no such asker before no set", () -> x.derived(-1, -1), INDEX);
-        Degreewall z = withPeople(3, 2);
+        Degreewall z = Offices.withPeople(3, 2);
         z.ask(0, 3);
         z.ask(1, 3);
         checks.due("19: told to two, the first of them", () -> z.derived(0, 3), 3);
         checks.due("19: told to two, the second of them", () -> z.derived(1, 3), 3);
-        Degreewall y = withPeople(6, 1);
+        Degreewall y = Offices.withPeople(6, 1);
         y.ask(0, 0b001111);
         y.ask(0, 0b111100);
         y.ask(0, 0b110011);
@@ -559,7 +520,7 @@ public final class PromiseTest {
     }
 
     private static void promise20() {
-        Degreewall x = withLine(5);
+        Degreewall x = Offices.withLine(5);
         x.join(0, 2);
         x.join(0, 3);
         x.join(0, 4);
@@ -582,26 +543,26 @@ public final class PromiseTest {
         x.ask(1, 4);
         x.talk(1, 0);
         x.knock();
-        checks.due("20: house", () -> houseOf(x), "5 2 1 2 2 3 3 2 3 2 1 3 2 1");
+        checks.due("20: house", () -> Offices.houseOf(x), "5 2 1 2 2 3 3 2 3 2 1 3 2 1");
         checks.due("20: 14", () -> x.house(14), ARGUMENT);
         checks.due("20: -1", () -> x.house(-1), ARGUMENT);
         checks.due("20: lowest", () -> x.house(LOWEST), ARGUMENT);
     }
 
     private static void promise21() {
-        Degreewall x = withLine(7);
+        Degreewall x = Offices.withLine(7);
         checks.due("21: row(0)", () -> x.row(0), "0123456");
         checks.due("21: row(4)", () -> x.row(4), "4321012");
         x.kin(2, 3, false);
         checks.due("21: row(5)", () -> x.row(5), "---2101");
         checks.due("21: no such source", () -> x.row(7), INDEX);
         checks.due("21: no such source", () -> x.row(-1), INDEX);
-        checks.due("21: only those that there are", () -> withSources(2).row(1), "-0");
+        checks.due("21: only those that there are", () -> Offices.withSources(2).row(1), "-0");
         checks.due("21: no source", () -> new Degreewall().row(0), INDEX);
     }
 
     private static void promise22() {
-        Degreewall x = withLine(6);
+        Degreewall x = Offices.withLine(6);
         checks.due("22: free", () -> x.wouldJoin(0, 2), -1);
         checks.due("22: itself", () -> x.wouldJoin(4, 4), -1);
         checks.due("22: the greater one first", () -> x.wouldJoin(5, 4), 45);
@@ -617,7 +578,7 @@ public final class PromiseTest {
             checks.due("22: no such thing", () -> x.wouldJoin(wrong, 0), INDEX);
             checks.due("22: no such thing", () -> x.wouldJoin(0, wrong), INDEX);
         }
-        Degreewall y = withLine(3);
+        Degreewall y = Offices.withLine(3);
         for (int k = 0; k < 10; k++) {
             y.join(0, 0);
         }
@@ -626,7 +587,7 @@ public final class PromiseTest {
     }
 
     private static void promise23() {
-        Degreewall x = withPeople(4, 2);
+        Degreewall x = Offices.withPeople(4, 2);
         x.ask(0, 3);
         checks.due("23: the third", () -> x.wouldGive(0, 7), 4);
         checks.due("23: two at once", () -> x.wouldGive(0, 1), 3);
@@ -646,7 +607,7 @@ public final class PromiseTest {
     }
 
     private static void promise24() {
-        Degreewall x = withPeople(4, 4);
+        Degreewall x = Offices.withPeople(4, 4);
         x.ask(0, 3);
         x.ask(1, 7);
         x.ask(2, 11);
@@ -668,7 +629,7 @@ public final class PromiseTest {
     }
 
     private static void promise25() {
-        Degreewall x = withSources(7);
+        Degreewall x = Offices.withSources(7);
         for (int k = 0; k < 6; k++) {
             x.permit(k + 1, k, k == 3 ? 1 : 9);
         }
@@ -682,7 +643,7 @@ public final class PromiseTest {
         x.pass(2);
         checks.due("25: ended", () -> x.chain(0, 6), -1);
         checks.due("25: the rest", () -> x.chain(6, 4), 2);
-        Degreewall y = withSources(4);
+        Degreewall y = Offices.withSources(4);
         y.kin(0, 1, true);
         y.permit(0, 1, 9);
         y.permit(2, 3, 9);
@@ -702,7 +663,7 @@ public final class PromiseTest {
     }
 
     private static void promise26() {
-        Degreewall x = withLine(4);
+        Degreewall x = Offices.withLine(4);
         x.join(0, 2);
         x.permit(0, 1, 9);
         x.permit(1, 3, 9);
@@ -743,7 +704,7 @@ public final class PromiseTest {
     private static void promise28() {
         long empty = mixed(8839, 0, 0, 0, 1, 0, 0, 0, 0, 0, 0, 2, 0, 0, 0, 1);
         checks.due("28: a new one", () -> new Degreewall().digest(), empty);
-        Degreewall x = withLine(3);
+        Degreewall x = Offices.withLine(3);
         x.join(0, 2);
         x.join(1, 1);
         x.permit(2, 0, 4);
@@ -762,76 +723,5 @@ public final class PromiseTest {
         d = mixed(d, 0, 2, 4, 1, 1);
         d = mixed(d, 1, 1, 1, 0, 11, 2, 0, 0, 1, -1);
         checks.due("28: with something of each", x::digest, mixed(d, 1));
-    }
-
-    private static Degreewall full() {
-        Degreewall x = withLine(7);
-        for (int k = 0; k < 10; k++) {
-            x.join(0, k % 2 == 0 ? 2 : 4);
-        }
-        x.bar(2);
-        for (int k = 0; k < 8; k++) {
-            x.permit(k % 7, (k + 1) % 7, k * 40);
-        }
-        x.revoke(6);
-        for (int k = 0; k < 8; k++) {
-            x.person(100 + k);
-        }
-        for (int k = 0; k < 4; k++) {
-            x.asker();
-        }
-        x.ask(0, 7);
-        x.ask(1, 15);
-        x.ask(2, 248);
-        x.talk(1, 2);
-        for (int k = 0; k < 9; k++) {
-            x.pass(400);
-        }
-        return x;
-    }
-
-    private static void aThrownCallChangesNothing() {
-        Degreewall x = full();
-        long before = x.digest();
-        checks.due("full: source", x::source, STATE);
-        checks.due("full: kin", () -> x.kin(0, 0, true), ARGUMENT);
-        checks.due("full: kin", () -> x.kin(0, 7, true), INDEX);
-        checks.due("full: bar", () -> x.bar(6), ARGUMENT);
-        checks.due("full: join", () -> x.join(0, 6), STATE);
-        checks.due("full: join of kin", () -> x.join(0, 1), STATE);
-        checks.due("full: join of a struck one", () -> x.join(10, 6), INDEX);
-        checks.due("full: permit", () -> x.permit(0, 1, 1), STATE);
-        checks.due("full: revoke", () -> x.revoke(8), INDEX);
-        checks.due("full: pass", () -> x.pass(51), STATE);
-        checks.due("full: person", () -> x.person(1), STATE);
-        checks.due("full: asker", x::asker, STATE);
-        checks.due("full: least", () -> x.least(6), ARGUMENT);
-        checks.due("full: ask", () -> x.ask(0, 256), ARGUMENT);
-        checks.due("full: ask", () -> x.ask(4, 3), INDEX);
-        checks.due("full: talk", () -> x.talk(3, 3), ARGUMENT);
-        checks.due("full: nothing has changed", x::digest, before);
-    }
-
-    private static void whatIsAskedChangesNothing() {
-        Degreewall x = full();
-        long before = x.digest();
-        for (int one = 0; one < 7; one++) {
-            x.row(one);
-            for (int other = 0; other < 7; other++) {
-                x.degree(one, other);
-                x.chain(one, other);
-                x.wouldJoin(one, other);
-            }
-        }
-        for (int asker = 0; asker < 4; asker++) {
-            x.wouldTalk(asker, 0);
-            for (int people = 1; people < 256; people += 6) {
-                x.derived(asker, people);
-                x.wouldGive(asker, people);
-            }
-        }
-        checks.due("asked: nothing has changed", x::digest, before);
-        x.knock();
-        checks.due("asked: but a knock counts", () -> x.digest() == before, false);
     }
 }
